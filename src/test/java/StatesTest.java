@@ -24,6 +24,7 @@ public final class StatesTest {
         readsItself();
         startOfNoRules();
         noStates();
+        calculator();
         Check.end();
     }
 
@@ -268,5 +269,32 @@ public final class StatesTest {
         Check.due("look", desk.look(0, 0), Check.NONE);
         Check.due("after", desk.after(0, 0), Check.NONE);
         Check.dueRow("relations", desk::relations, 0, 0, 0, 0, 0, Check.NONE);
+    }
+
+    /** The well-known tables of sums of products: e, t, f of n, p(lus), m(ultiplied), o(pen), c(losed). */
+    private static void calculator() {
+        LalrDesk desk = Check.told("token n;token p;token m;token o;token c;kind e;kind t;kind f;rule e e p t;rule e t;"
+            + "rule t t m f;rule t f;rule f o e c;rule f n;");
+        Check.dueRow("count", desk::count, 5, 3, 6, 12, 34, 22, 36);
+        int[][] actions = {{1001, 0, 0, 1002, 0, 0}, {0, 2005, 2005, 0, 2005, 2005}, {1001, 0, 0, 1002, 0, 0},
+            {0, 1007, 0, 0, 0, 3000}, {0, 2001, 1008, 0, 2001, 2001}, {0, 2003, 2003, 0, 2003, 2003},
+            {0, 1007, 0, 0, 1009, 0}, {1001, 0, 0, 1002, 0, 0}, {1001, 0, 0, 1002, 0, 0},
+            {0, 2004, 2004, 0, 2004, 2004}, {0, 2000, 1008, 0, 2000, 2000}, {0, 2002, 2002, 0, 2002, 2002}};
+        int[][] moves = {{3, 4, 5}, {-2, -2, -2}, {6, 4, 5}, {-2, -2, -2}, {-2, -2, -2}, {-2, -2, -2}, {-2, -2, -2},
+            {-2, 10, 5}, {-2, -2, 11}, {-2, -2, -2}, {-2, -2, -2}, {-2, -2, -2}};
+        int[][] afters = {{34, 38, 38}, {-2, -2, -2}, {18, 22, 22}, {-2, -2, -2}, {-2, -2, -2}, {-2, -2, -2}, {-2, -2, -2},
+            {-2, 54, 54}, {-2, -2, 54}, {-2, -2, -2}, {-2, -2, -2}, {-2, -2, -2}};
+        for (int state = 0; state < actions.length; state++) {
+            int asked = state;
+            Check.dueRow("action of " + state, k -> desk.action(asked, k), actions[state]);
+            Check.dueRow("move of " + state, k -> desk.move(asked, 10 + k), moves[state]);
+            Check.dueRow("after " + state, k -> desk.after(asked, k), afters[state]);
+        }
+        Check.due("LOOK", desk.look(4, 1), 50);
+        Check.due("LOOK", desk.look(10, 0), 50);
+        Check.due("LOOK", desk.look(5, 3), 54);
+        Check.due("LOOK", desk.look(11, 2), 54);
+        Check.dueRow("relations", desk::relations, 9, 0, 10, 18, 0);
+        Check.dueRow("conflicts", k -> desk.conflicts(), 0);
     }
 }

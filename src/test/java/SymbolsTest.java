@@ -8,6 +8,7 @@ public final class SymbolsTest {
     public static void main(String[] args) {
         tokens();
         kinds();
+        firstAndFollowThroughEmpties();
         emptyByEmpty();
         shortestOfKinds();
         kindsWithoutUse();
@@ -56,6 +57,19 @@ public final class SymbolsTest {
         Check.due("kind(10, 0)", kind(desk, 10, 0), INDEX);
         Check.due("kind(0, 0) without KINDS", kind(new LalrDesk(), 0, 0), INDEX);
         Check.due("kind(0, 7) without KINDS", kind(new LalrDesk(), 0, 7), INDEX);
+    }
+
+    private static void firstAndFollowThroughEmpties() {
+        // x, y and z are EMPTY, each begins with a TOKEN of its own
+        LalrDesk desk = Check.told("token a;token b;token c;token d;kind s;kind x;kind y;kind z;rule s x y z d;rule x;rule x a;"
+            + "rule y;rule y b;rule z;rule z c;");
+        Check.dueRow("FIRST", k -> kind(desk, k, 1), 15, 1, 2, 4);
+        Check.dueRow("FOLLOW", k -> kind(desk, k, 2), 16, 14, 12, 8);
+        // behind x all is EMPTY: what is behind s, too
+        LalrDesk tail = Check.told("token a;token b;token c;token d;kind s;kind x;kind y;rule s x y;rule s d s a;rule x;rule x c;"
+            + "rule y;rule y b;");
+        Check.dueRow("FIRST", k -> kind(tail, k, 1), 4 + 2 + 8, 4, 2);
+        Check.dueRow("FOLLOW", k -> kind(tail, k, 2), 1 + 16, 2 + 1 + 16, 1 + 16);
     }
 
     private static void emptyByEmpty() {
