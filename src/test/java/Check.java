@@ -30,16 +30,22 @@ final class Check {
         }
     }
 
+    /** Twenty signs from there on as feed() takes them. */
+    static int[] numbers(CharSequence text, int at) {
+        int[] numbers = new int[5];
+        for (int k = 0; k < 20; k++) {
+            numbers[k / 4] = numbers[k / 4] << 8 | text.charAt(at + k);
+        }
+        return numbers;
+    }
+
     static void feed(LalrDesk desk, String text) {
         StringBuilder all = new StringBuilder(text);
         while (all.length() % 20 != 0) {
             all.append(' ');
         }
         for (int at = 0; at < all.length(); at += 20) {
-            int[] numbers = new int[5];
-            for (int k = 0; k < 20; k++) {
-                numbers[k / 4] = numbers[k / 4] << 8 | all.charAt(at + k);
-            }
+            int[] numbers = numbers(all, at);
             due("feed", desk.feed(numbers[0], numbers[1], numbers[2], numbers[3], numbers[4]), at + 20);
         }
     }

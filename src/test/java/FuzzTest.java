@@ -137,10 +137,7 @@ public final class FuzzTest {
             all.append(' ');
         }
         for (int at = 0; at < all.length(); at += 20) {
-            int[] numbers = new int[5];
-            for (int k = 0; k < 20; k++) {
-                numbers[k / 4] = numbers[k / 4] << 8 | all.charAt(at + k);
-            }
+            int[] numbers = Check.numbers(all, at);
             int due = oracle.feed(numbers[0], numbers[1], numbers[2], numbers[3], numbers[4]);
             int got = desk.feed(numbers[0], numbers[1], numbers[2], numbers[3], numbers[4]);
             due(seed, "feed", got, due, log);

@@ -12,6 +12,7 @@ public final class NotesTest {
         missingsByStrikes();
         missingsByKnown();
         missingsOfShort();
+        missingsOfSeven();
         asks();
         asksOfNone();
         wrongAsks();
@@ -178,6 +179,29 @@ public final class NotesTest {
         desk.strike(0);
         desk.note(0, 0, false);
         Check.due("of nothing", desk.missing(), 1);
+    }
+
+    /** Rows of the first and of the last TOKENS, of all lengths, are all told from one another. */
+    private static void missingsOfSeven() {
+        StringBuilder text = new StringBuilder();
+        for (char token = 'a'; token <= 'g'; token++) {
+            text.append("token ").append(token).append(';');
+        }
+        text.append("kind s;rule s;rule s a;rule s g;rule s a a;rule s g g;rule s a a a;rule s g g g;rule s a a a a;"
+            + "rule s g g g g;");
+        int[][] rows = {{0, 0}, {1, 0}, {1, 6}, {2, 0}, {2, 66}, {3, 0}, {3, 666}, {4, 0}, {4, 6666}};
+        LalrDesk desk = Check.told(text.toString());
+        for (int rule = 0; rule < rows.length; rule++) {
+            int is = desk.note(rows[rule][0], rows[rule][1], true);
+            Check.due("missing", desk.missing(), (1 << rows.length) - 1 - (1 << rule));
+            Check.due("strike", desk.strike(is), is + 1);
+        }
+        LalrDesk other = Check.told(text.toString());
+        for (int rule = 0; rule < 8; rule++) {
+            int isnt = other.note(rows[rule][0], rows[rule][1], false);
+            Check.due("missing", other.missing(), 1 << rule);
+            Check.due("strike", other.strike(isnt), isnt + 1);
+        }
     }
 
     private static void asks() {

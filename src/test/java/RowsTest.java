@@ -3,6 +3,7 @@ public final class RowsTest {
     public static void main(String[] args) {
         witnesses();
         witnessesByKinds();
+        witnessesShortenedLate();
         longestWitnesses();
         shortests();
         longestShortests();
@@ -66,6 +67,16 @@ public final class RowsTest {
         int behind = way.move(way.move(way.move(0, 11), 12), 12);
         dueWitness(way, behind, 0, 0, 0);
         dueWitness(way, way.move(behind, 1), 0, 0, 0, 1);
+    }
+
+    /** A STATE with a low number and a long row is shortened by one with a greater number, and all behind it, too. */
+    private static void witnessesShortenedLate() {
+        LalrDesk desk = Check.told("token a;token b;token c;token d;kind s;kind k;kind w;rule s k w;rule s a b c w;"
+            + "rule k d d d d;rule w b a;");
+        int behind = desk.move(desk.move(0, 11), 1);
+        Check.due("numbered ahead of where the shorter row comes from", behind < desk.move(desk.move(desk.move(0, 0), 1), 2), true);
+        dueWitness(desk, behind, 0, 1, 2, 1);
+        dueWitness(desk, desk.move(behind, 0), 0, 1, 2, 1, 0);
     }
 
     /** h stands for 40 TOKENS, j for 16, k for 4. */
