@@ -1,5 +1,13 @@
-/** Of promise 3: a desk that was told many texts answers as a new one that was told the last of them. */
+import java.util.ArrayList;
+import java.util.List;
+import java.util.function.ToIntFunction;
+
+/**
+ * Of promise 3: a desk that was told other texts ahead answers as a new one that was told the last of them. No desk is
+ * asked more than 512 times, so each pair of desks is asked a part of the questions only.
+ */
 public final class AgainTest {
+    private static final int ASKED_AT_ONCE = 110;
     private static final String[] TEXTS = {
         "token i;token l;token o;kind s;rule s i s;rule s i s l s;rule s o;",
         "token a;token b;token c;kind s;kind x;kind y;rule s x y c;rule x;rule x a;rule y;rule y b;rank a 3 1;rank c 2 2;",
@@ -16,88 +24,114 @@ public final class AgainTest {
         "token a;kind s;kind t;rule s s;rule s t;rule t t a;rule t s;",
     };
 
+    private static final List<String> NAMES = new ArrayList<>();
+    private static final List<ToIntFunction<LalrDesk>> QUESTIONS = new ArrayList<>();
+
     public static void main(String[] args) {
-        LalrDesk desk = new LalrDesk();
+        gatherQuestions();
         for (int round = 1; round <= 3; round++) {
             for (int k = 0; k < TEXTS.length; k++) {
-                again(desk, TEXTS[k * round % TEXTS.length]);
+                String ahead = TEXTS[(k * round + TEXTS.length - round) % TEXTS.length];
+                again(ahead, TEXTS[k * round % TEXTS.length]);
             }
         }
         Check.end();
     }
 
-    private static void again(LalrDesk desk, String text) {
-        Check.due("text of " + text, Check.tell(desk, text), Check.lines(text));
-        LalrDesk fresh = Check.told(text);
-        same(text, desk, fresh);
-        for (LalrDesk one : new LalrDesk[] {desk, fresh}) {
-            one.note(1, 0, true);
-            one.note(2, 0, false);
-            one.strike(0);
-            one.known(2);
-            one.read(0);
-            one.keep();
-            one.read(one.expected() == 1 ? 0 : 1);
-        }
-        same(text, desk, fresh);
-        Check.due("text", Check.tell(desk, text + "token token;"), Check.NONE);
-        same(text, desk, fresh);
+    private static void ask(String name, ToIntFunction<LalrDesk> question) {
+        NAMES.add(name);
+        QUESTIONS.add(question);
     }
 
-    private static void same(String text, LalrDesk desk, LalrDesk fresh) {
+    private static void gatherQuestions() {
+        ask("conflicts", LalrDesk::conflicts);
+        ask("missing", LalrDesk::missing);
+        ask("whole", LalrDesk::whole);
+        ask("expected", LalrDesk::expected);
         for (int what = 0; what < 14; what++) {
-            Check.due("count(" + what + ") of " + text, desk.count(what), fresh.count(what));
-            Check.due("relations(" + what + ") of " + text, desk.relations(what), fresh.relations(what));
+            int asked = what;
+            ask("count(" + what + ")", desk -> desk.count(asked));
+            ask("relations(" + what + ")", desk -> desk.relations(asked));
         }
-        Check.due("conflicts of " + text, desk.conflicts(), fresh.conflicts());
-        Check.due("missing of " + text, desk.missing(), fresh.missing());
-        Check.due("whole of " + text, desk.whole(), fresh.whole());
-        Check.due("expected of " + text, desk.expected(), fresh.expected());
+        for (char name = 'a'; name <= 'z'; name++) {
+            int letters = Check.letters("" + name);
+            ask("named " + name, desk -> desk.named(letters));
+        }
         for (int k = 0; k < 13; k++) {
             for (int what = 0; what < 7; what++) {
-                sameOf(text, desk, fresh, k, what);
+                gatherQuestionsOf(k, what);
             }
         }
         for (int state = 0; state < 49; state++) {
-            Check.due("offset of " + text, desk.offset(state), fresh.offset(state));
+            int asked = state;
+            ask("offset(" + state + ")", desk -> desk.offset(asked));
             for (int symbol = 0; symbol < 15; symbol++) {
-                sameOfState(text, desk, fresh, state, symbol);
+                gatherQuestionsOfState(state, symbol);
             }
         }
         for (int place = 0; place < 400; place++) {
-            Check.due("packed of " + text, desk.packed(place, 0), fresh.packed(place, 0));
-            Check.due("packed of " + text, desk.packed(place, 1), fresh.packed(place, 1));
-        }
-        for (char name = 'a'; name <= 'z'; name++) {
-            Check.due("named " + name, desk.named(Check.letters("" + name)), fresh.named(Check.letters("" + name)));
+            int asked = place;
+            ask("packed(" + place + ", 0)", desk -> desk.packed(asked, 0));
+            ask("packed(" + place + ", 1)", desk -> desk.packed(asked, 1));
         }
     }
 
-    private static int kind(LalrDesk desk, int kind, int what) {
-        return kind < desk.count(1) && what < 5 ? desk.kind(kind, what) : Check.NONE;
+    private static void gatherQuestionsOf(int k, int what) {
+        String numbers = "(" + k + ", " + what + ")";
+        ask("token" + numbers, desk -> desk.token(k, what));
+        ask("kind" + numbers, desk -> k < desk.count(1) && what < 5 ? desk.kind(k, what) : Check.NONE);
+        ask("rule" + numbers, desk -> desk.rule(k, what));
+        ask("conflict" + numbers, desk -> desk.conflict(k, what));
+        ask("shortest" + numbers, desk -> desk.shortest(k, what));
+        ask("sentences(" + what + ")", desk -> desk.sentences(what));
+        ask("stack(" + k + ")", desk -> desk.stack(k));
+        ask("game turned of" + numbers, desk -> desk.game(what, k));
+        ask("ask turned of" + numbers, desk -> desk.ask(what, k));
+        ask("chance" + numbers, desk -> desk.chance(k, what));
+        ask("tried turned of" + numbers, desk -> desk.tried(what, k));
     }
 
-    private static void sameOf(String text, LalrDesk desk, LalrDesk fresh, int k, int what) {
-        Check.due("token of " + text, desk.token(k, what), fresh.token(k, what));
-        Check.due("kind of " + text, kind(desk, k, what), kind(fresh, k, what));
-        Check.due("rule of " + text, desk.rule(k, what), fresh.rule(k, what));
-        Check.due("conflict of " + text, desk.conflict(k, what), fresh.conflict(k, what));
-        Check.due("shortest of " + text, desk.shortest(k, what), fresh.shortest(k, what));
-        Check.due("sentences of " + text, desk.sentences(what), fresh.sentences(what));
-        Check.due("stack of " + text, desk.stack(k), fresh.stack(k));
-        Check.due("game of " + text, desk.game(what, k), fresh.game(what, k));
-        Check.due("ask of " + text, desk.ask(what, k), fresh.ask(what, k));
-        Check.due("chance of " + text, desk.chance(k, what), fresh.chance(k, what));
-        Check.due("tried of " + text, desk.tried(what, k), fresh.tried(what, k));
+    private static void gatherQuestionsOfState(int state, int k) {
+        String numbers = "(" + state + ", " + k + ")";
+        ask("state" + numbers, desk -> desk.state(state, k));
+        ask("item" + numbers, desk -> desk.item(state, k));
+        ask("move" + numbers, desk -> desk.move(state, k));
+        ask("action" + numbers, desk -> desk.action(state, k));
+        ask("look" + numbers, desk -> desk.look(state, k));
+        ask("after" + numbers, desk -> desk.after(state, k));
+        ask("witness" + numbers, desk -> desk.witness(state, k));
     }
 
-    private static void sameOfState(String text, LalrDesk desk, LalrDesk fresh, int state, int k) {
-        Check.due("state of " + text, desk.state(state, k), fresh.state(state, k));
-        Check.due("item of " + text, desk.item(state, k), fresh.item(state, k));
-        Check.due("move of " + text, desk.move(state, k), fresh.move(state, k));
-        Check.due("action of " + text, desk.action(state, k), fresh.action(state, k));
-        Check.due("look of " + text, desk.look(state, k), fresh.look(state, k));
-        Check.due("after of " + text, desk.after(state, k), fresh.after(state, k));
-        Check.due("witness of " + text, desk.witness(state, k), fresh.witness(state, k));
+    private static void again(String ahead, String text) {
+        for (int from = 0; from < QUESTIONS.size(); from += ASKED_AT_ONCE) {
+            LalrDesk desk = Check.told(ahead);
+            use(desk);
+            desk.missing();
+            Check.due("text of " + text, Check.tell(desk, text), Check.lines(text));
+            LalrDesk fresh = Check.told(text);
+            same(text, desk, fresh, from);
+            use(desk);
+            use(fresh);
+            same(text, desk, fresh, from);
+            Check.due("text", Check.tell(desk, text + "token token;"), Check.NONE);
+            same(text, desk, fresh, from);
+        }
+    }
+
+    private static void use(LalrDesk desk) {
+        desk.note(1, 0, true);
+        desk.note(2, 0, false);
+        desk.strike(0);
+        desk.known(2);
+        desk.read(0);
+        desk.keep();
+        desk.read(desk.expected() == 1 ? 0 : 1);
+    }
+
+    private static void same(String text, LalrDesk desk, LalrDesk fresh, int from) {
+        for (int k = from; k < from + ASKED_AT_ONCE && k < QUESTIONS.size(); k++) {
+            ToIntFunction<LalrDesk> question = QUESTIONS.get(k);
+            Check.due(NAMES.get(k) + " of " + text, question.applyAsInt(desk), question.applyAsInt(fresh));
+        }
     }
 }

@@ -32,6 +32,11 @@ public final class FuzzTest {
         "token a;kind s;kind x;kind y;kind z;rule s x y z a;rule x z;rule y x;rule z y;rule z;",
     };
 
+    /** What later calls answer is free. */
+    private static final int MOST_CALLS = 512;
+    /** Feeds of the whole tape, text() and two of fault(). */
+    private static final int CALLS_OF_A_TEXT = 38;
+
     private static long calls = 0;
     private static int wrong = 0;
 
@@ -52,8 +57,9 @@ public final class FuzzTest {
         Oracle oracle = new Oracle();
         StringBuilder log = new StringBuilder();
         int made = 0;
-        while (made < 512 && wrong < 5) {
-            if (made == 0 && chance.nextInt(10) > 0 || chance.nextInt(60) == 0) {
+        while (made < MOST_CALLS && wrong < 5) {
+            boolean tells = made == 0 && chance.nextInt(10) > 0 || chance.nextInt(60) == 0;
+            if (tells && made + CALLS_OF_A_TEXT <= MOST_CALLS) {
                 String text = text(chance);
                 log.append("text ").append(text).append('\n');
                 made += tell(desk, oracle, text, chance, seed, log);
@@ -131,7 +137,7 @@ public final class FuzzTest {
     }
 
     private static int tell(LalrDesk desk, Oracle oracle, String text, Random chance, int seed, StringBuilder log) {
-        int made = 1;
+        int made = 3;
         StringBuilder all = new StringBuilder(text);
         while (all.length() % 20 != 0) {
             all.append(' ');

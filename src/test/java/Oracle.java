@@ -497,23 +497,43 @@ final class Oracle {
 
         // -- what MOVES do
 
+        private List<List<Integer>> kindMoves = null;
+        /** Of each two MOVES, by their numbers there. */
+        private boolean[][] reads = null;
+        private boolean[][] includes = null;
+
         List<List<Integer>> kindMoves() {
-            List<List<Integer>> all = new ArrayList<>();
-            for (int state = 0; state < kernels.size(); state++) {
-                for (int kind = 0; kind < told.kinds.size(); kind++) {
-                    if (move(state, 10 + kind) >= 0) {
-                        all.add(List.of(state, kind));
+            if (kindMoves == null) {
+                kindMoves = new ArrayList<>();
+                for (int state = 0; state < kernels.size(); state++) {
+                    for (int kind = 0; kind < told.kinds.size(); kind++) {
+                        if (move(state, 10 + kind) >= 0) {
+                            kindMoves.add(List.of(state, kind));
+                        }
                     }
                 }
+                relate();
             }
-            return all;
+            return kindMoves;
         }
 
-        boolean reads(List<Integer> one, List<Integer> other) {
+        private void relate() {
+            int size = kindMoves.size();
+            reads = new boolean[size][size];
+            includes = new boolean[size][size];
+            for (int one = 0; one < size; one++) {
+                for (int other = 0; other < size; other++) {
+                    reads[one][other] = reads(kindMoves.get(one), kindMoves.get(other));
+                    includes[one][other] = includes(kindMoves.get(one), kindMoves.get(other));
+                }
+            }
+        }
+
+        private boolean reads(List<Integer> one, List<Integer> other) {
             return move(one.get(0), 10 + one.get(1)) == other.get(0) && empty(10 + other.get(1));
         }
 
-        boolean includes(List<Integer> one, List<Integer> other) {
+        private boolean includes(List<Integer> one, List<Integer> other) {
             for (int rule : rulesOf(other.get(1))) {
                 List<Integer> row = symbols(rule);
                 for (int k = 0; k < row.size(); k++) {
@@ -526,12 +546,23 @@ final class Oracle {
             return false;
         }
 
+        int pairs(boolean thatRead) {
+            int sum = 0;
+            for (int one = 0; one < kindMoves().size(); one++) {
+                for (int other = 0; other < kindMoves().size(); other++) {
+                    sum += (thatRead ? reads : includes)[one][other] ? 1 : 0;
+                }
+            }
+            return sum;
+        }
+
         Set<Integer> after(List<Integer> move) {
             Set<Integer> set = new TreeSet<>();
-            Set<List<Integer>> seen = new HashSet<>(Set.of(move));
-            Deque<List<Integer>> todo = new ArrayDeque<>(seen);
+            Set<Integer> seen = new HashSet<>(Set.of(kindMoves().indexOf(move)));
+            Deque<Integer> todo = new ArrayDeque<>(seen);
             while (!todo.isEmpty()) {
-                List<Integer> one = todo.pop();
+                int number = todo.pop();
+                List<Integer> one = kindMoves().get(number);
                 for (int symbol : moves.get(move(one.get(0), 10 + one.get(1))).keySet()) {
                     if (symbol < 10) {
                         set.add(symbol);
@@ -540,8 +571,8 @@ final class Oracle {
                 if (one.equals(List.of(0, start))) {
                     set.add(end);
                 }
-                for (List<Integer> other : kindMoves()) {
-                    if ((reads(one, other) || includes(one, other)) && seen.add(other)) {
+                for (int other = 0; other < kindMoves().size(); other++) {
+                    if ((reads[number][other] || includes[number][other]) && seen.add(other)) {
                         todo.push(other);
                     }
                 }
@@ -573,7 +604,7 @@ final class Oracle {
                 while (!todo.isEmpty()) {
                     int one = todo.pop();
                     for (int other = 0; other < all.size(); other++) {
-                        if (!seen.contains(other) && includes(all.get(one), all.get(other))) {
+                        if (!seen.contains(other) && includes[one][other]) {
                             seen.add(other);
                             todo.push(other);
                         }
@@ -863,19 +894,12 @@ final class Oracle {
     }
 
     int relations(int what) {
-        List<List<Integer>> all = table.kindMoves();
-        int sum = 0;
         switch (what) {
             case 0:
-                return all.size();
+                return table.kindMoves().size();
             case 1:
             case 2:
-                for (List<Integer> one : all) {
-                    for (List<Integer> other : all) {
-                        sum += (what == 1 ? table.reads(one, other) : table.includes(one, other)) ? 1 : 0;
-                    }
-                }
-                return sum;
+                return table.pairs(what == 1);
             case 3:
                 return table.lookbacks();
             case 4:

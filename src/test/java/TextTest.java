@@ -137,7 +137,7 @@ public final class TextTest {
     }
 
     /** Seven rules of a first kind and five of a second one, of four symbols each: 28 and 20 states and two more. */
-    private static String grammarOfStates(int states) {
+    static String grammarOfStates(int states) {
         StringBuilder text = new StringBuilder();
         for (char token = 'a'; token <= 'g'; token++) {
             text.append("token ").append(token).append(';');
