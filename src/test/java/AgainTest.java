@@ -107,6 +107,7 @@ public final class AgainTest {
             LalrDesk desk = Check.told(ahead);
             use(desk);
             desk.missing();
+            desk.tried(3, 1);
             Check.due("text of " + text, Check.tell(desk, text), Check.lines(text));
             LalrDesk fresh = Check.told(text);
             same(text, desk, fresh, from);

@@ -16,6 +16,8 @@ public final class FullTest {
         // 240 MOVES by KINDS, as many as there can be
         SYMBOLS + "rule u v t a g;rule v b w t u;rule t a u s w;rule t w w s;rule v s u t a;rule s t w d d;rule t t f t a;"
             + "rule s d v g c;rule u g t t w;rule u c v c u;rule s e t c a;rule w u v w b;",
+        SYMBOLS + "rule u g u b f;rule w u g g;rule t u u c v;rule u v s v t;rule t f w e g;rule s d w f w;rule v c s b t;"
+            + "rule v b s c f;rule v s t u v;rule s t u g u;rule t e t t w;rule s w s t g;",
         SYMBOLS + "rule w u v;rule t b u t w;rule u w a w a;rule v t t v;rule u g s v v;rule t d u s d;rule u u a u b;"
             + "rule t t f w f;rule v w s w b;rule w s v d v;rule s v w u b;rule v f w f w;" + RANKS,
         // many that READ and INCLUDE one another, in 75 RINGS
@@ -34,7 +36,7 @@ public final class FullTest {
             + "rule s v a;rule w b b t b;rule t c t a;rule v w c c b;rule t b b s;rule v b s u s;rule s c s c t;",
         "token a;token b;token c;token d;kind s;kind t;kind u;kind v;rule u b t;rule t b a b s;rule t a b a s;rule u b b u;"
             + "rule u a u;rule t s;rule s a t u t;rule s u b a;",
-        // one RULE for each TOKEN and the SHORTEST as long as may be
+        // the others: each TOKEN in a row of its own, a SHORTEST of 32 TOKENS, all rows of all TOKENS
         TextTest.grammarOfStates(48),
         SYMBOLS + "rule s t t v v;rule t u u u u;rule u v v v v;rule v a;rule v b;rule w s a;rule w t u;rule w g;rule s t t t;",
         SYMBOLS + "rule s s g;rule s s f;rule s s e;rule s s d;rule s s c;rule s s b;rule s s a;rule s;",
@@ -127,6 +129,12 @@ public final class FullTest {
         gather("game", 5, 2, desk -> desk::game, oracle -> oracle::game);
         gather("ask", 4, 2, desk -> desk::ask, oracle -> oracle::ask);
         gather("chance", 9, 10, desk -> desk::chance, oracle -> oracle::chance);
+        for (int seed : new int[] {65535, 65536, 1 << 30, 1103515245, Integer.MAX_VALUE - 1, Integer.MAX_VALUE, Integer.MIN_VALUE}) {
+            for (int k = 0; k <= 10; k++) {
+                int n = k;
+                add("chance(" + seed + ", " + n + ")", desk -> desk.chance(seed, n), oracle -> oracle.chance(seed, n));
+            }
+        }
         add("missing", LalrDesk::missing, Oracle::missing);
         add("whole", LalrDesk::whole, Oracle::whole);
         add("expected", LalrDesk::expected, Oracle::expected);

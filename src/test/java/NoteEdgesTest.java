@@ -23,6 +23,8 @@ public final class NoteEdgesTest {
         missingWithMostStates();
         missingByLook();
         missingOfMostRules();
+        missingBySidesOfSeven();
+        missingOfFewRules();
         missingOfWhatIsRead();
         asksOfSeven();
         asksTheFirstRow();
@@ -347,6 +349,28 @@ public final class NoteEdgesTest {
             Check.due("without " + rule, other.missing(), 1 << rule);
             Check.due("one is left whatever is asked", other.ask(lengths[rule], 1), 1);
         }
+    }
+
+    /** "(the others keep their numbers, ranks)": of m e p, of alike RANKS, neither goes first if p, the last of seven, says so. */
+    private static void missingBySidesOfSeven() {
+        for (int side = 0; side <= 2; side++) {
+            LalrDesk desk = Check.told("token n;token o;token b;token c;token d;token m;token p;kind e;rule e e p;rule e m e;"
+                + "rule e n;rule e o;rank m 9 0;rank p 9 " + side + ";");
+            desk.note(3, 506, true);
+            Check.due("m n p is", desk.missing(), side == 2 ? 0 : 8);
+            desk.strike(0);
+            desk.note(3, 506, false);
+            Check.due("m n p isn't", desk.missing(), side == 2 ? 15 : 7);
+        }
+    }
+
+    /** With fewer RULES than KINDS, the last of which is the one that matters. */
+    private static void missingOfFewRules() {
+        LalrDesk desk = Check.told("token a;token b;kind s;kind t;kind u;kind v;kind w;rule s w;rule w a;rule w b;");
+        desk.note(1, 0, true);
+        Check.due("a is", desk.missing(), 4);
+        desk.note(1, 1, true);
+        Check.due("b is, too", desk.missing(), 0);
     }
 
     /** "is a SENTENCE or isn't": from STATE 0 alone on, whatever is READ. */

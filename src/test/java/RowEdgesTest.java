@@ -7,6 +7,7 @@ public final class RowEdgesTest {
         shortestByOrder();
         shortestOfNothing();
         witnessOfMost();
+        witnessByOrder();
         witnessOfNothing();
         witnessThroughEmpties();
         noSuchTokens();
@@ -88,6 +89,22 @@ public final class RowEdgesTest {
             Check.due("the first one", desk.witness(last, 0), isLast ? 0 : Check.NOTHING);
             Check.due("one more than b", desk.witness(last, tokens + 1), Check.NOTHING);
         }
+    }
+
+    /** "likewise": of several rows as short the first by TOKENS, be the KIND it comes by behind the TOKENS. */
+    private static void witnessByOrder() {
+        LalrDesk desk = Check.told("token a;token b;token c;token d;kind s;kind u;kind t;rule s b t;rule s u t;rule u a;rule t c d;");
+        Check.due("by b to the same STATE", desk.move(desk.move(0, 1), 2), 5);
+        Check.due("as by u", desk.move(desk.move(0, 11), 2), 5);
+        Check.dueRow("a c", k -> desk.witness(5, k), 0, 2, Check.NOTHING);
+        int last = desk.move(5, 3);
+        Check.dueRow("a c d", k -> desk.witness(last, k), 0, 2, 3, Check.NOTHING);
+        // c c is not ahead of b d, nor b d of a d: by the first TOKEN that is another one
+        LalrDesk longer = Check.told("token a;token b;token c;token d;kind s;kind u;kind v;kind t;rule s c c t;rule s u t;rule s v t;"
+            + "rule u b d;rule v a d;rule t d;");
+        int whole = longer.move(longer.move(longer.move(0, 2), 2), 3);
+        Check.due("one STATE", longer.move(longer.move(0, 11), 3), whole);
+        Check.dueRow("a d d", k -> longer.witness(whole, k), 0, 3, 3, Check.NOTHING);
     }
 
     /** "-2: there are no so many, there is none such"; of STATE 0 it has no TOKENS. */

@@ -19,6 +19,7 @@ public final class TableEdgesTest {
         lookOfItself();
         lookOfStartRule();
         afterOfStart();
+        afterByReads();
         ranksFromOneToNine();
         sideIsOfTheToken();
         ranksOfOneAlone();
@@ -221,6 +222,20 @@ public final class TableEdgesTest {
         Check.dueRow("after(.., 0)", state -> desk.after(state, 0), 4, 2, -2, -2, -2, -1);
         LalrDesk itself = Check.told("token a;token b;kind s;rule s a s;rule s b;");
         Check.dueRow("after(.., 0)", state -> itself.after(state, 0), 4, 4, -2, -2, -2, -1);
+    }
+
+    /** "all of what it READS": of the first KIND, too, and of the last one. */
+    private static void afterByReads() {
+        LalrDesk desk = Check.told("token a;token b;kind s;kind x;rule s x s b;rule s;rule x a;");
+        Check.due("AFTER x", desk.after(0, 1), 1 + 2);
+        Check.dueRow("relations", desk::relations, 4, 2, 0, 6, 0);
+        LalrDesk five = Check.told("token a;token b;token c;kind s;kind t;kind u;kind v;kind w;rule s t u v w;rule s c;rule t a;"
+            + "rule u;rule v;rule w;rule w b;");
+        // one READS the other: all that can come is b, and END by what t INCLUDES
+        Check.dueRow("from STATE 0", kind -> five.after(0, kind), 8, 2 + 8, -2, -2, -2, -1);
+        int behind = five.move(0, 11);
+        Check.dueRow("behind t", kind -> five.after(behind, kind), -2, -2, 2 + 8, -2, -2, -1);
+        Check.dueRow("relations", five::relations, 5, 3, 4, 7, 0);
     }
 
     private static LalrDesk hanging(int ranked, int rank, int side) {

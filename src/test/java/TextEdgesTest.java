@@ -26,12 +26,14 @@ public final class TextEdgesTest {
         toldAhead();
         eachRankOnce();
         sameRules();
+        sameRulesBehindOtherTexts();
         moreMustCome();
         firstAlongTheText();
         leastOfOnePlace();
         mostStates();
         mostStatesBehindAllElse();
         fullTape();
+        lastOfTheFullTape();
         highestFirst();
         textsOfNoSuchLength();
         textOfTheFirstBytes();
@@ -235,6 +237,20 @@ public final class TextEdgesTest {
         good("kind e;kind f;rule e;rule f;rule e e;rule f e;rule e f;rule f f;");
     }
 
+    /** What texts ahead said of longer RULES is of no use. */
+    private static void sameRulesBehindOtherTexts() {
+        LalrDesk desk = new LalrDesk();
+        for (int times = 0; times < 3; times++) {
+            Check.due("text", Check.tell(desk, "token a;token b;kind e;rule e a a a a;rule e b b b b;rule e a b a b;"), 6);
+        }
+        for (String rule : new String[] {"rule e", "rule e a", "rule e a b", "rule e a b b"}) {
+            String text = "token a;token b;kind e;" + rule + ";" + rule;
+            Check.due("text", Check.tell(desk, text + ";"), Check.NONE);
+            Check.due("FAULT", desk.fault(0), 5);
+            Check.due("place", desk.fault(1), text.length());
+        }
+    }
+
     /** "(the length, if more must come)": with the blanks at the end. */
     private static void moreMustCome() {
         String head = "token a;kind e;";
@@ -318,6 +334,16 @@ public final class TextEdgesTest {
         Check.due("text(20)", desk.text(20), 2);
         Check.due("b", desk.named(Check.letters("b")), 0);
         Check.due("a", desk.named(Check.letters("a")), Check.NONE);
+    }
+
+    /** The last byte of a full TAPE is one of the TEXT, too. */
+    private static void lastOfTheFullTape() {
+        for (int n = 698; n <= 700; n++) {
+            LalrDesk desk = new LalrDesk();
+            Check.feed(desk, "token a;" + " ".repeat(685) + "kind e;");
+            Check.due("text(" + n + ")", desk.text(n), n == 700 ? 2 : Check.NONE);
+            Check.due("place", desk.fault(1), n == 700 ? Check.NONE : n);
+        }
     }
 
     /** "four of each number, the highest first": with the numbers below 0, too. */
