@@ -18,6 +18,9 @@ public final class FullTest {
             + "rule s d v g c;rule u g t t w;rule u c v c u;rule s e t c a;rule w u v w b;",
         SYMBOLS + "rule u g u b f;rule w u g g;rule t u u c v;rule u v s v t;rule t f w e g;rule s d w f w;rule v c s b t;"
             + "rule v b s c f;rule v s t u v;rule s t u g u;rule t e t t w;rule s w s t g;",
+        // the last of them INCLUDES others
+        SYMBOLS + "rule v g t s s;rule u w w w w;rule w d s g w;rule s v u g a;rule t c s v t;rule t a v f w;rule w u u s c;"
+            + "rule u b u u u;rule v w t t s;rule t s t d g;rule w e v g w;rule u t w u;",
         SYMBOLS + "rule w u v;rule t b u t w;rule u w a w a;rule v t t v;rule u g s v v;rule t d u s d;rule u u a u b;"
             + "rule t t f w f;rule v w s w b;rule w s v d v;rule s v w u b;rule v f w f w;" + RANKS,
         // many that READ and INCLUDE one another, in 75 RINGS

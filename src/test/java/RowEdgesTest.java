@@ -7,6 +7,7 @@ public final class RowEdgesTest {
         shortestByOrder();
         shortestOfNothing();
         witnessOfMost();
+        witnessOfMostAndNothing();
         witnessByOrder();
         witnessOfNothing();
         witnessThroughEmpties();
@@ -88,6 +89,24 @@ public final class RowEdgesTest {
             Check.due("b", desk.witness(last, tokens), isLast ? 1 : Check.NOTHING);
             Check.due("the first one", desk.witness(last, 0), isLast ? 0 : Check.NOTHING);
             Check.due("one more than b", desk.witness(last, tokens + 1), Check.NOTHING);
+        }
+    }
+
+    /** 60 TOKENS, and behind them an EMPTY KIND: w stands for 40, v for 16, q and r for four of which the last one differs. */
+    private static void witnessOfMostAndNothing() {
+        LalrDesk desk = Check.told("token a;token b;kind s;kind w;kind v;kind q;kind r;rule s;rule s w v q s;rule s w v r s;"
+            + "rule w v v r r;rule v r r r r;rule q a a a b;rule r a a a a;");
+        int behind = desk.move(desk.move(0, 11), 12);
+        Check.due("56 TOKENS", desk.state(behind, 3), 56);
+        for (int kind = 13; kind <= 14; kind++) {
+            int full = desk.move(behind, kind);
+            int further = desk.move(full, 10);
+            for (int state : new int[] {full, further}) {
+                Check.due("60 TOKENS", desk.state(state, 3), 60);
+                Check.due("the last one", desk.witness(state, 59), kind == 13 ? 1 : 0);
+                Check.due("the one ahead", desk.witness(state, 58), 0);
+                Check.due("none more", desk.witness(state, 60), Check.NOTHING);
+            }
         }
     }
 
