@@ -14,6 +14,7 @@ public final class TableEdgesTest {
         greatestSymbols();
         orderOfStates();
         sameKernel();
+        closedThroughAllKinds();
         kindsWithoutRules();
         items();
         lookOfItself();
@@ -149,6 +150,26 @@ public final class TableEdgesTest {
         // the same ITEMS, but by a KIND and by a TOKEN to two STATES, for their KERNELS are not the same
         LalrDesk other = Check.told("token a;kind s;kind t;rule s t s;rule s a s;rule s;rule t;");
         Check.due("not the same", other.move(0, 0) != other.move(0, 11), true);
+    }
+
+    /** "CLOSED: with an ITEM whose SYMBOL behind the DOT is a KIND all ITEMS of its RULES": from one of five to the next. */
+    private static void closedThroughAllKinds() {
+        LalrDesk down = Check.told("token a;token b;kind s;kind t;kind u;kind v;kind w;rule s a w;rule w v;rule v u;rule u t;"
+            + "rule t s;rule s b;");
+        int behind = down.move(0, 0);
+        Check.dueRow("behind a", what -> down.state(behind, what), 1, 7, 0, 1, 2);
+        Check.due("b", down.move(behind, 1), down.move(0, 1));
+        Check.due("STATE 0", down.state(0, 1), 3);
+        Check.due("a a b", down.sentences(3), 1);
+        LalrDesk up = Check.told("token a;token b;kind s;kind t;kind u;kind v;kind w;rule s a t;rule t u;rule u v;rule v w;"
+            + "rule w s;rule s b;");
+        Check.due("behind a", up.state(up.move(0, 0), 1), 7);
+        // each of them tried as START
+        for (int kind = 0; kind < 5; kind++) {
+            Check.due("tried(3, " + kind + ")", down.tried(3, kind), 0);
+            Check.due("EMPTY", down.kind(kind, 0), 0);
+            Check.due("FIRST", down.kind(kind, 1), 3);
+        }
     }
 
     /** "START RULE .. stands for START alone"; "Without KINDS there are no STATES": with one there are two. */
